@@ -2,7 +2,9 @@ import java.util.ArrayDeque;
 import java.util.ArrayList;
 import java.util.Arrays;
 import java.util.Comparator;
+import java.util.HashMap;
 import java.util.List;
+import java.util.Map;
 import java.util.Random;
 import java.util.TreeSet;
 import java.util.regex.Matcher;
@@ -32,7 +34,7 @@ public final class CornerCutsAgainstPlain {
     }
 
     public static void main(String[] args) {
-        int runs = args.length > 0 ? Integer.parseInt(args[0]) : 250;
+        int runs = args.length > 0 ? Integer.parseInt(args[0]) : 60;
         int seed = args.length > 1 ? Integer.parseInt(args[1]) : 1;
         for (int run = 0; run < runs && wrong == 0; run++) {
             oneRun(new Random(1000003L * seed + run));
@@ -43,66 +45,110 @@ public final class CornerCutsAgainstPlain {
         }
     }
 
+    /** Every fourth run is of calls of all kinds alike; the others build something, then ask. */
     private static void oneRun(Random r) {
         x = new CornerCuts();
         p = new Plain();
         calls.clear();
-        int budget = 512;
-        int style = r.nextInt(4);
-        while (budget > 0) {
-            int kind = r.nextInt(100);
-            if (kind < 3) {
-                setRows(r);
-                budget -= 1;
-            } else if (kind < 5) {
-                budget -= goodBasis(r);
-            } else if (kind < 7) {
-                oneBasis(r);
-                budget -= 1;
-            } else if (kind < 10) {
-                oneRight(r);
-                budget -= 1;
-            } else if (kind < 19) {
-                oneColumn(r);
-                budget -= 1;
-            } else if (kind < 22) {
-                int k = r.nextInt(8) - 1;
-                int v = r.nextInt(8) == 0 ? r.nextInt(300) - 100 : r.nextInt(12);
-                agree("cost " + k + " " + v, x.cost(k, v), p.cost(k, v));
-                budget -= 1;
-            } else if (kind < 24) {
-                int k = r.nextInt(8) - 1;
-                agree("drop " + k, x.drop(k), p.drop(k));
-                budget -= 1;
-            } else if (kind < 25) {
-                agree("uncut", x.uncut(), p.uncut());
-                budget -= 1;
-            } else if (kind < 28) {
-                agree("undo", x.undo(), p.undo());
-                budget -= 1;
-            } else if (kind < 30) {
-                int k = r.nextInt(4) - 1;
-                agree("image " + k, x.image(k), p.image(k));
-                budget -= 1;
-            } else if (kind < 31) {
-                int k = r.nextInt(4) - 1;
-                agree("back " + k, x.back(k), p.back(k));
-                budget -= 1;
-            } else if (kind < 45) {
-                budget -= textAndCut(r);
-            } else if (kind < 48) {
-                int k = r.nextInt(10) - 1;
-                agree("listing " + k, x.listing(k), p.listing(k));
-                budget -= 1;
+        boolean isRich = r.nextInt(4) > 0;
+        if (isRich) {
+            buildSome(r);
+        }
+        while (calls.size() < 480) {
+            int kind = r.nextInt(isRich ? 400 : 100);
+            if (isRich && r.nextInt(60) == 0) {
+                buildSome(r);
             } else {
-                askSome(r, style);
-                budget -= 4;
+                oneCall(r, kind);
             }
             agree("status", x.status(), p.status);
             agree("fault", x.fault(), p.fault);
-            budget -= 2;
         }
         askAll(r);
+    }
+
+    private static void buildSome(Random r) {
+        setRows(r);
+        goodBasis(r);
+        for (int i = 0; i < p.s.m; i++) {
+            oneRight(r);
+        }
+        for (int tries = 0; tries < 5 && p.goal(-1) <= 0; tries++) {
+            oneRight(r);
+        }
+        int columns = r.nextInt(7);
+        for (int k = 0; k < columns; k++) {
+            oneColumn(r);
+        }
+        int cuts = r.nextInt(9);
+        for (int k = 0; k < cuts; k++) {
+            textAndCut(r);
+        }
+        if (r.nextInt(3) == 0) {
+            middleText(r);
+        }
+    }
+
+    /** A told function half way between two of the table. */
+    private static void middleText(Random r) {
+        List<int[]> f = p.size() == 0 ? new ArrayList<>() : p.functions();
+        if (f.size() < 2) {
+            return;
+        }
+        int j = 1 + r.nextInt(f.size() - 1);
+        int i = r.nextInt(j);
+        int g = p.goal(-1);
+        int[] v = new int[p.size()];
+        int common = 0;
+        for (int e = 0; e < v.length; e++) {
+            v[e] = f.get(i)[e] * f.get(j)[g] + f.get(j)[e] * f.get(i)[g];
+            common = Plain.gcd(common, v[e]);
+        }
+        StringBuilder t = new StringBuilder("told");
+        for (int n : v) {
+            t.append(' ').append(n / common);
+        }
+        cutBy(r, t.toString());
+        int last = p.s.cuts.size() - 1;
+        agree("middle " + last, x.middle(last), p.middle(last));
+    }
+
+    private static void oneCall(Random r, int kind) {
+        int k = r.nextInt(8) - 1;
+        int few = r.nextInt(4) - 1;
+        if (kind < 1) {
+            setRows(r);
+        } else if (kind < 3) {
+            goodBasis(r);
+        } else if (kind < 5) {
+            oneBasis(r);
+        } else if (kind < 8) {
+            oneRight(r);
+        } else if (kind < 17) {
+            oneColumn(r);
+        } else if (kind < 20) {
+            int v = r.nextInt(8) == 0 ? r.nextInt(300) - 100 : r.nextInt(12);
+            agree("cost " + k + " " + v, x.cost(k, v), p.cost(k, v));
+        } else if (kind < 22) {
+            agree("drop " + k, x.drop(k), p.drop(k));
+        } else if (kind < 24) {
+            agree("uncut", x.uncut(), p.uncut());
+        } else if (kind < 28) {
+            agree("undo", x.undo(), p.undo());
+        } else if (kind < 30) {
+            agree("image " + few, x.image(few), p.image(few));
+        } else if (kind < 32) {
+            agree("back " + few, x.back(few), p.back(few));
+        } else if (kind < 55) {
+            textAndCut(r);
+        } else if (kind < 58) {
+            agree("listing " + k, x.listing(k), p.listing(k));
+        } else if (kind < 59) {
+            int n = r.nextInt(60) - 5;
+            agree("end " + n, x.end(n), p.end(n));
+        } else {
+            askSome(r);
+        }
     }
 
     private static void setRows(Random r) {
@@ -110,7 +156,7 @@ public final class CornerCutsAgainstPlain {
         agree("rows " + m, x.rows(m), p.rows(m));
     }
 
-    private static int goodBasis(Random r) {
+    private static void goodBasis(Random r) {
         int m = p.s.m;
         int[][] b = new int[m][m];
         for (int tries = 0; tries < 300; tries++) {
@@ -121,7 +167,7 @@ public final class CornerCutsAgainstPlain {
                 }
             }
             int d = Math.abs(Plain.det(b));
-            if (d >= 1 && d <= 24 && (d > 3 || r.nextInt(4) == 0)) {
+            if (d >= 1 && d <= 24 && (d > 3 || r.nextInt(20) == 0)) {
                 break;
             }
         }
@@ -130,7 +176,6 @@ public final class CornerCutsAgainstPlain {
                 agree("basis " + i + " " + j + " " + b[i][j], x.basis(i, j, b[i][j]), p.basis(i, j, b[i][j]));
             }
         }
-        return m * m;
     }
 
     private static void oneBasis(Random r) {
@@ -192,18 +237,19 @@ public final class CornerCutsAgainstPlain {
         if (r.nextInt(12) == 0) {
             t.insert(r.nextInt(t.length() + 1), "- -x0A\0~".charAt(r.nextInt(8)));
         }
-        if (r.nextInt(25) == 0) {
+        if (r.nextInt(40) == 0) {
             t.setLength(r.nextInt(t.length()));
         }
         return t.toString();
     }
 
-    private static int textAndCut(Random r) {
-        String t = randomText(r);
-        int used = 0;
+    private static void textAndCut(Random r) {
+        cutBy(r, randomText(r));
+    }
+
+    private static void cutBy(Random r, String t) {
         if (p.tape.size() > 0) {
             agree("end 0", x.end(0), p.end(0));
-            used++;
         }
         int whole = (t.length() + 19) / 20;
         for (int i = 0; i < whole; i++) {
@@ -214,27 +260,23 @@ public final class CornerCutsAgainstPlain {
                 f[j / 4] |= b << (24 - 8 * (j % 4));
             }
             agree("feed", x.feed(f[0], f[1], f[2], f[3], f[4]), p.feed(f));
-            used++;
         }
         if (r.nextInt(30) > 0) {
             agree("end " + t.length(), x.end(t.length()), p.end(t.length()));
-            used++;
         }
         if (r.nextInt(30) > 0) {
             agree("cut [" + t + "]", x.cut(), p.cut());
             agree("fault", x.fault(), p.fault);
-            used += 2;
         }
-        return used;
     }
 
-    private static void askSome(Random r, int style) {
+    private static void askSome(Random r) {
         int cut = r.nextInt(Math.max(1, p.s.cuts.size() + 1)) - (r.nextInt(10) == 0 ? 1 : 0);
         int e = r.nextInt(Math.max(1, p.size() + 1)) - (r.nextInt(5) == 0 ? 1 : 0);
         int f = r.nextInt(Math.max(1, p.size() + 1)) - (r.nextInt(15) == 0 ? 1 : 0);
         int k = r.nextInt(8) - 1;
         for (int i = 0; i < 4; i++) {
-            askOne(r, style == 0 ? 19 : r.nextInt(32), cut, e, f, k);
+            askOne(r, r.nextInt(32), cut, e, f, k);
         }
     }
 
@@ -364,7 +406,9 @@ public final class CornerCutsAgainstPlain {
         int fault = -1;
         final int[] refused = new int[7];
         private List<int[]> rowsCache;
-        private String rowsKey;
+        private int[][] rowsKey;
+        private int[][] sumsCache;
+        private final Map<String, Integer> found = new HashMap<>();
         private List<int[]> tableCache;
         private String tableKey;
 
@@ -725,32 +769,36 @@ public final class CornerCutsAgainstPlain {
 
         /** All least rows: the lexicographically least of each class with numbers 0 .. D-1. */
         List<int[]> leastRows() {
-            String key = Arrays.deepToString(s.basis);
-            if (key.equals(rowsKey)) {
+            if (Arrays.deepEquals(s.basis, rowsKey)) {
                 return rowsCache;
             }
-            List<int[]> found = new ArrayList<>();
+            List<int[]> rows = new ArrayList<>();
             int d = size();
             int all = 1;
             for (int i = 0; i < s.m; i++) {
                 all *= d;
             }
-            for (int n = 0; n < all && found.size() < d; n++) {
+            for (int n = 0; n < all && rows.size() < d; n++) {
                 int[] row = new int[s.m];
                 for (int i = s.m - 1, rest = n; i >= 0; i--, rest /= d) {
                     row[i] = rest % d;
                 }
                 boolean isNew = true;
-                for (int[] f : found) {
+                for (int[] f : rows) {
                     isNew &= !isMultiple(minus(row, f));
                 }
                 if (isNew) {
-                    found.add(row);
+                    rows.add(row);
                 }
             }
-            rowsKey = key;
-            rowsCache = found;
-            return found;
+            rowsKey = s.copy().basis;
+            rowsCache = rows;
+            found.clear();
+            sumsCache = new int[d][d];
+            for (int[] row : sumsCache) {
+                Arrays.fill(row, -1);
+            }
+            return rows;
         }
 
         static int[] minus(int[] a, int[] b) {
@@ -763,12 +811,14 @@ public final class CornerCutsAgainstPlain {
 
         int find(int[] row) {
             List<int[]> l = leastRows();
-            for (int e = 0; e < l.size(); e++) {
-                if (isMultiple(minus(row, l.get(e)))) {
-                    return e;
+            return found.computeIfAbsent(Arrays.toString(row), k -> {
+                for (int e = 0; e < l.size(); e++) {
+                    if (isMultiple(minus(row, l.get(e)))) {
+                        return e;
+                    }
                 }
-            }
-            throw new IllegalStateException();
+                throw new IllegalStateException();
+            });
         }
 
         int hermite(int r, int c) {
@@ -855,10 +905,13 @@ public final class CornerCutsAgainstPlain {
                 return -1;
             }
             int[] sum = leastRows().get(a).clone();
-            for (int i = 0; i < s.m; i++) {
-                sum[i] += leastRows().get(b)[i];
+            if (sumsCache[a][b] < 0) {
+                for (int i = 0; i < s.m; i++) {
+                    sum[i] += leastRows().get(b)[i];
+                }
+                sumsCache[a][b] = find(sum);
             }
-            return find(sum);
+            return sumsCache[a][b];
         }
 
         int order(int e) {
@@ -892,6 +945,10 @@ public final class CornerCutsAgainstPlain {
         List<int[]> shortest() {
             int d = size();
             int n = s.columns.size();
+            int[] elements = new int[n];
+            for (int k = 0; k < n; k++) {
+                elements[k] = goal(k);
+            }
             int[][][] by = new int[d + 1][d][];
             by[0][0] = new int[2 + n];
             for (int st = 0; st < d; st++) {
@@ -901,7 +958,7 @@ public final class CornerCutsAgainstPlain {
                         w[0] += s.columns.get(k)[s.m];
                         w[1]++;
                         w[2 + k]++;
-                        int to = plus(e, goal(k));
+                        int to = plus(e, elements[k]);
                         if (by[st + 1][to] == null || compare(w, by[st + 1][to]) < 0) {
                             by[st + 1][to] = w;
                         }
@@ -1001,9 +1058,13 @@ public final class CornerCutsAgainstPlain {
                 }
             }
             extend(all, new int[2 + elements.length], 0, most, elements, sums);
+            int g = goal(-1);
+            all.removeIf(w -> w[w.length - 1] != g);
+            all.replaceAll(w -> Arrays.copyOf(w, w.length - 1));
             return all;
         }
 
+        /** Each way with its element behind it. */
         void extend(List<int[]> all, int[] w, int k, int most, int[] elements, int[][] sums) {
             if (k == elements.length) {
                 int sum = 0;
@@ -1012,9 +1073,9 @@ public final class CornerCutsAgainstPlain {
                         sum = sums[sum][elements[i]];
                     }
                 }
-                if (sum == goal(-1)) {
-                    all.add(w.clone());
-                }
+                int[] way = Arrays.copyOf(w, w.length + 1);
+                way[w.length] = sum;
+                all.add(way);
                 return;
             }
             for (int t = 0; t <= most; t++) {
@@ -1083,11 +1144,7 @@ public final class CornerCutsAgainstPlain {
                 default:
                     int n = 0;
                     for (int[] w : walksOf(6)) {
-                        int sum = 0;
-                        for (int c = 0; c < s.columns.size(); c++) {
-                            sum += w[2 + c] * coefficient(k, c);
-                        }
-                        n += sum == scale(k) ? 1 : 0;
+                        n += taken(v, Arrays.copyOfRange(w, 2, 8)) == v[goal(-1)] ? 1 : 0;
                     }
                     return n;
             }
