@@ -270,9 +270,10 @@ public final class CornerCutsPromises {
             "gmi 1000000", "gmi 0000001", "gmi - 1", "gmi -", "gmi --1", "gmi 1-1", "gmi 1 x", "gmi x",
             "gmi 1 2", "gmi +1", "gmi\t1", "step 0 1", "step 24 1", "step -1 1", "step 1", "both 0 0", "hull 0",
             "hull", "told 1 2 3 4", "told 1 2 3 4 5 6", "told 1 2 3 4 1000", "told -1 2 3 4 5", "told 1 2 3 4 5x",
-            "gmi 1\0", "-", "told 99999999999999999999 1", "frac 4294967297", "step 000001 0000009"};
+            "gmi 1\0", "-", "told 99999999999999999999 1", "frac 4294967297", "step 000001 0000009",
+            "gmiz 1", "agmi 1", "step 23 1x"};
         int[] places = {0, 3, 3, 4, 4, 0, 0, 0, 0, 4, 4, 4, 4, 4, 4, 4, 5, 6, 4, 6, 4, 3, 5, 5, 5, 6, 5, 5, 4, 12,
-            15, 13, 5, 14, 5, 0, 5, 5, 12};
+            15, 13, 5, 14, 5, 0, 5, 5, 12, 0, 0, 9};
         for (int i = 0; i < bad.length; i++) {
             fault(x, bad[i], places[i]);
         }
