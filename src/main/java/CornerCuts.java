@@ -1618,7 +1618,7 @@ public final class CornerCuts {
          */
         private void findCharacters(Group g) {
             addCharacter(0, 0, 0);
-            for (int i = 0; i < found; i++) {
+            for (int i = 0; i < found && i < MOST_ELEMENTS; i++) {
                 for (int r = 0; r < MOST_ROWS; r++) {
                     int p = i * MOST_ROWS;
                     int u = r == 0 ? 1 : 0;
