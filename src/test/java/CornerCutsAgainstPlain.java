@@ -15,6 +15,8 @@ import java.util.regex.Pattern;
  * the document's words alone, by other ways (searches and enumerations); all answers must agree.
  */
 public final class CornerCutsAgainstPlain {
+    /** What an object answers behind so many calls is free. */
+    private static final int LAST_CALL = 512;
     private static int wrong = 0;
     private static final List<String> calls = new ArrayList<>();
     private static CornerCuts x;
@@ -22,6 +24,10 @@ public final class CornerCutsAgainstPlain {
 
     private static void agree(String call, long got, long want) {
         calls.add(call + " -> " + want);
+        if (calls.size() > LAST_CALL) {
+            wrong++;
+            System.out.println(call + " is call " + calls.size() + " of one object");
+        }
         if (got != want) {
             wrong++;
             if (wrong <= 5) {
@@ -34,7 +40,7 @@ public final class CornerCutsAgainstPlain {
     }
 
     public static void main(String[] args) {
-        int runs = args.length > 0 ? Integer.parseInt(args[0]) : 60;
+        int runs = args.length > 0 ? Integer.parseInt(args[0]) : 120;
         int seed = args.length > 1 ? Integer.parseInt(args[1]) : 1;
         for (int run = 0; run < runs && wrong == 0; run++) {
             oneRun(new Random(1000003L * seed + run));
@@ -45,7 +51,10 @@ public final class CornerCutsAgainstPlain {
         }
     }
 
-    /** Every fourth run is of calls of all kinds alike; the others build something, then ask. */
+    /**
+     * Every fourth run is of calls of all kinds alike; the others build something, then ask. Half
+     * of the runs leave room for many questions at their end.
+     */
     private static void oneRun(Random r) {
         x = new CornerCuts();
         p = new Plain();
@@ -54,7 +63,8 @@ public final class CornerCutsAgainstPlain {
         if (isRich) {
             buildSome(r);
         }
-        while (calls.size() < 480) {
+        int acts = r.nextBoolean() ? LAST_CALL - 150 : 120;
+        while (calls.size() < acts) {
             int kind = r.nextInt(isRich ? 400 : 100);
             if (isRich && r.nextInt(60) == 0) {
                 buildSome(r);
@@ -338,26 +348,31 @@ public final class CornerCutsAgainstPlain {
             x.deepest(t[0], t[1], t[2], t[3], t[4], t[5]), p.deepest(t));
     }
 
+    private static boolean hasRoomFor(int more) {
+        return calls.size() + more <= LAST_CALL;
+    }
+
     private static void askAll(Random r) {
-        for (int which = 0; which < 32; which++) {
+        for (int which = 0; which < 32 && hasRoomFor(3); which++) {
             askOne(r, which, r.nextInt(8), r.nextInt(24), r.nextInt(24), r.nextInt(6));
         }
-        for (int cut = 0; cut < p.s.cuts.size(); cut++) {
-            for (int what = -1; what < 11; what++) {
-                agree("asks " + cut + " " + what, x.asks(cut, what), p.asks(cut, what));
-            }
-            agree("middle " + cut, x.middle(cut), p.middle(cut));
-            for (int other = 0; other < p.s.cuts.size(); other++) {
-                agree("isOver " + cut + " " + other, x.isOver(cut, other) ? 1 : 0, p.isOver(cut, other) ? 1 : 0);
-            }
+        int length = p.tape.size();
+        for (int i = length - 8; i < length + 2 && hasRoomFor(1); i++) {
+            agree("tape " + i, x.tape(i), p.byteAt(i));
         }
-        for (int e = -1; e <= 24; e++) {
+        for (int e = -1; e <= p.size() && hasRoomFor(3); e++) {
             agree("far " + e, x.far(e, 1), p.far(e, 1));
             agree("shot " + e, x.shot(e), p.shot(e));
             agree("order " + e, x.order(e), p.order(e));
         }
-        for (int i = -1; i < 410; i++) {
-            agree("tape " + i, x.tape(i), p.byteAt(i));
+        for (int cut = 0; cut < p.s.cuts.size() && hasRoomFor(13); cut++) {
+            for (int what = -1; what < 11; what++) {
+                agree("asks " + cut + " " + what, x.asks(cut, what), p.asks(cut, what));
+            }
+            agree("middle " + cut, x.middle(cut), p.middle(cut));
+            for (int other = 0; other < p.s.cuts.size() && hasRoomFor(1); other++) {
+                agree("isOver " + cut + " " + other, x.isOver(cut, other) ? 1 : 0, p.isOver(cut, other) ? 1 : 0);
+            }
         }
     }
 

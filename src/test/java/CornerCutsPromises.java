@@ -275,7 +275,8 @@ public final class CornerCutsPromises {
         int[] places = {0, 3, 3, 4, 4, 0, 0, 0, 0, 4, 4, 4, 4, 4, 4, 4, 5, 6, 4, 6, 4, 3, 5, 5, 5, 6, 5, 5, 4, 12,
             15, 13, 5, 14, 5, 0, 5, 5, 12, 0, 0, 9};
         for (int i = 0; i < bad.length; i++) {
-            fault(x, bad[i], places[i]);
+            // an object is good for 512 calls alone
+            fault(cyclic(5, 3), bad[i], places[i]);
         }
         String[] good = {"gmi 1 ", "  gmi   1  ", "gmi1", "gmi-1", "step2-1", "gmi 000001", "gmi -000001"};
         for (String t : good) {
