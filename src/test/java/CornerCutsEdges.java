@@ -308,6 +308,16 @@ public final class CornerCutsEdges {
         due("element(1, 3)", x.element(1, 3, 0), 7);
         due("element(-1, -2)", x.element(-1, -2, 0), 7);
         due("element(2, 0)", x.element(2, 0, 0), 3);
+        x = cube(2, 0, 0, 1, 2, 0, 1, 1, 3);
+        due("the first column", x.element(2, 1, 1), 0);
+        due("the first column less than none", x.element(-2, -1, -1), 0);
+        due("the second column", x.element(0, 2, 1), 0);
+        due("the third column", x.element(0, 0, 3), 0);
+        due("all three", x.element(2, 3, 5), 0);
+        due("the last", x.element(1, 1, 2), 11);
+        due("the last by the first column", x.element(-1, 0, 1), 11);
+        due("the last by the second column", x.element(1, -1, 1), 11);
+        due("the last twice: (2, 2, 4) less both others is (0, 1, 3)", x.plus(11, 11), 3);
 
         says(0, "above the diagonal 0, on it above 0, left of it in each row 0 or more, but below the one on the "
             + "diagonal.");
@@ -341,6 +351,11 @@ public final class CornerCutsEdges {
         for (int i = 0; i < rights.length; i++) {
             due("goal(-1) by " + rights[i], cyclic(5, rights[i]).goal(-1), goals[i]);
         }
+        x = cube(2, 0, 0, 0, 3, 0, 0, 0, 4);
+        x.right(0, -99);
+        x.right(1, 98);
+        x.right(2, -97);
+        due("three rows", x.goal(-1), 12 + 8 + 3);
 
         says(0, "INVARIANTS: the m numbers above 0, each a divisor of the next, so that the GROUP is that of rests "
             + "by them (1 first, if need be).");
@@ -399,6 +414,26 @@ public final class CornerCutsEdges {
         x.column(3, 0, 0, 4);
         due("none of column 0, most of 1", 100 * x.walk(3) + 10 * x.walk(4) + x.walk(5), 101);
         due("none of column 0, most of 1", x.walk(2), 0);
+
+        says(0, "BASICS of a WALK: the m NUMBERS y so that BASIS times y is RIGHT SIDE less all COLUMNS that are taken "
+            + "(whole ones, as it is a WALK).");
+        x = cube(2, 0, 0, 1, 2, 0, 1, 1, 3);
+        x.right(0, 1);
+        x.right(1, 9);
+        x.right(2, -7);
+        x.column(1, 0, 0, 1);
+        x.column(0, 0, 2, 1);
+        x.column(0, 1, 1, 1);
+        // (1, 9, -7) is (1, 1, -11) and four times the second column: (1, 1, 1)
+        due("COLUMNS 0 and 2", 100 * x.walk(2) + 10 * x.walk(3) + x.walk(4), 101);
+        // (0, 8, -8) is left
+        due("basic(0)", x.basic(0), 0);
+        due("basic(1)", x.basic(1), 4);
+        due("basic(2)", x.basic(2), -4);
+        due("no POINT", x.walk(8), 0);
+        x.right(2, 5);
+        due("basic(2)", x.basic(2), 0);
+        due("a POINT", x.walk(8), 1);
 
         says(0, "It is a POINT, if none is below 0.");
         x = square(1, 0, 0, 1);
@@ -517,6 +552,10 @@ public final class CornerCutsEdges {
         fault(x, "gmi 1 +1", 6);
         fault(x, "gmi`1 0", 3);
         fault(x, "gmi{1 0", 3);
+        fault(x, "gmiz 1 0", 0);
+        fault(x, "gmia 1 0", 0);
+        fault(x, "zgmi 1 0", 0);
+        fault(x, "gmi 1z0", 5);
         fault(x, "gmi 1/0", 5);
         fault(x, "gmi 1:0", 5);
         fault(x, "gmi\t1 0", 3);
@@ -749,6 +788,22 @@ public final class CornerCutsEdges {
         // 1 and 1, 1 and 3, 3 and 3
         due("2 1 2 1: pairs", x.asks(2, 7), 3);
         due("2 1 2 1: RANK", x.asks(2, 5), 3);
+        CornerCuts seven = cyclic(7, 4);
+        cut(seven, "told 0 2 4 6 8 9 9");
+        // 1 and 1, 1 and 2, 1 and 3, 2 and 2; the last of these is not apart
+        due("0 2 4 6 8 9 9: pairs", seven.asks(0, 7), 4);
+        due("0 2 4 6 8 9 9: RANK", seven.asks(0, 5), 4);
+        cut(seven, "told 0 1 2 3 4 5 6");
+        due("0 1 2 3 4 5 6: pairs", seven.asks(1, 7), 9);
+        due("0 1 2 3 4 5 6: RANK", seven.asks(1, 5), 6);
+        cut(seven, "told 0 0 0 0 1 0 0");
+        // all pairs but those that make 4, and but those with 4
+        due("0 0 0 0 1 0 0: pairs", seven.asks(2, 7), 12);
+        due("0 0 0 0 1 0 0: RANK", seven.asks(2, 5), 6);
+        cut(seven, "told 9 9 9 1 1 0 9");
+        // 1 and 5, 2 and 5, which make 0
+        due("9 9 9 1 1 0 9: pairs", seven.asks(3, 7), 2);
+        due("9 9 9 1 1 0 9: RANK", seven.asks(3, 5), 3);
         x.right(0, 0);
         cut(x, "told 1 5 5 5");
         due("goal 0: pairs", x.asks(0, 7), 0);
@@ -760,7 +815,8 @@ public final class CornerCutsEdges {
         due("a facet", 1000 * x.asks(0, 2) + 100 * x.asks(0, 3) + 10 * x.asks(0, 5) + x.asks(0, 6), 1141);
         cut(x, "told 0 13 11 24 12");
         due("RANK below", 1000 * x.asks(1, 2) + 100 * x.asks(1, 3) + x.asks(1, 6), 1100);
-        due("RANK below", x.asks(1, 5) < 4, true);
+        // 1 and 2, 4 and 4
+        due("RANK below", x.asks(1, 5), 3);
         cut(x, "told 6 2 4 6 3");
         due("not SUBADDITIVE", 10 * x.asks(2, 2) + x.asks(2, 6), 0);
         x = square(1, 0, 0, 1);
@@ -833,6 +889,18 @@ public final class CornerCutsEdges {
         due("by 1 1", tabled(x, 1), "0 1 1 0");
         x.right(0, 0);
         due("no PIVOT but 0", x.table(0), 0);
+        x = cube(2, 0, 0, 0, 2, 0, 0, 0, 2);
+        x.right(2, 1);
+        due("multipliers a b 1", x.table(0), 4);
+        due("by 0 0 1", tabled(x, 0), "0 1 0 1 0 1 0 1");
+        due("by 1 0 1", tabled(x, 1), "0 1 0 1 1 0 1 0");
+        due("by 0 1 1", tabled(x, 2), "0 1 1 0 0 1 1 0");
+        due("by 1 1 1", tabled(x, 3), "0 1 1 0 1 0 0 1");
+        x = square(4, 0, 0, 6);
+        x.right(0, 2);
+        x.right(1, 3);
+        // PIVOT is 12 if u and v are together odd: 12 of 24; 0 3 and 2 3 are their own opposites
+        due("multipliers of 24", x.table(0), 7);
 
         says(0, "SHOT at an ELEMENT: that one the VALUE of which there by its own SCALE (the VALUE of GOAL) is least, "
             + "the first.");
@@ -895,12 +963,19 @@ public final class CornerCutsEdges {
         x = cyclic(5, 3);
         x.rows(1);
         due("the same m: all anew", 10 * x.count(14) + x.count(11), 10);
+        x = cube(9, 8, 7, 6, 5, 4, 3, 2, 1);
+        x.right(2, 5);
+        x.rows(3);
+        due("the right side anew", x.count(13), 0);
+        for (int i = 0; i < 9; i++) {
+            due("the basis anew: count(" + (14 + i) + ")", x.count(14 + i), i % 4 == 0 ? 1 : 0);
+        }
         says(2, "m. -1.");
         int[] bad = {0, 4, -1, MIN, MAX};
         for (int m : bad) {
             refused(x, "rows(" + m + ")", x.rows(m), -1);
         }
-        due("count(0)", x.count(0), 1);
+        due("count(0)", x.count(0), 3);
 
         says(3, "A NUMBER of the BASIS: what it was. -1.");
         for (int m = 1; m <= 3; m++) {
@@ -952,6 +1027,10 @@ public final class CornerCutsEdges {
         refused(x, "the second number is asked", x.column(1, MAX, 0, 0), -1);
         x.rows(3);
         refused(x, "the third number is asked", x.column(1, 1, 100, 0), -1);
+        x.basis(2, 2, 4);
+        due("three rows", x.column(1, 1, 7, 0), 0);
+        due("its element", x.goal(0), 3);
+        x.rows(3);
         says(5, "-1; -5.");
         int[] bad = {-100, 100, MIN, MAX};
         for (int v : bad) {
@@ -1013,6 +1092,12 @@ public final class CornerCutsEdges {
         due("drop(1)", x.drop(1), 1);
         due("drop(0)", x.drop(0), 0);
         refused(x, "none is left", x.drop(0), -2);
+        x = cube(2, 0, 0, 0, 3, 0, 0, 0, 4);
+        x.column(1, 2, 3, 0);
+        x.column(1, 1, 2, 0);
+        x.column(0, 2, 1, 0);
+        x.drop(0);
+        due("all its numbers", 100 * x.goal(0) + x.goal(1), 100 * (12 + 4 + 2) + 8 + 1);
     }
 
     private static void promises8And9() {
@@ -1341,10 +1426,15 @@ public final class CornerCutsEdges {
         due("columns and cuts", 10 * x.count(1) + x.count(2), 0);
         due("elements", x.count(3), 1);
         x.basis(0, 0, 2);
+        x.basis(2, 2, 4);
+        x.column(1, 0, 3, 5);
         due("image(0) anew", x.image(0), 3);
-        x.rows(1);
+        x.rows(3);
+        x.column(1, 1, 1, 1);
         due("back(0)", x.back(0), 3);
-        due("elements", x.count(3), 2);
+        due("elements", x.count(3), 8);
+        due("goal(0)", x.goal(0), 7);
+        due("far(7, 0)", x.far(7, 0), 5);
         says(16, "m. -1.");
         int[] bad = {-1, 2, MIN, MAX};
         for (int k : bad) {
@@ -1867,6 +1957,12 @@ public final class CornerCutsEdges {
         x.column(3, 0, 0, 99);
         due("594 by 6: the upper", x.bound(0, 0), 99);
         due("594 by 6: the lower", x.bound(0, 1), 1);
+        x.column(5, 0, 0, 16);
+        due("96 by 1: the upper", x.bound(0, 0), 96);
+        due("96 by 1: the lower", x.bound(0, 1), 1);
+        x.cost(1, 63);
+        due("378 by 4: the upper", x.bound(0, 0), 189);
+        due("378 by 4: the lower", x.bound(0, 1), 2);
         x.cost(1, 0);
         due("0: the upper", x.bound(0, 0), 0);
         due("0: the lower", x.bound(0, 1), 1);
@@ -1903,9 +1999,17 @@ public final class CornerCutsEdges {
         due("the greatest", x.tightest(), 3);
         cut(x, "both 3 3");
         due("the first of like ones", x.tightest(), 3);
+        cut(x, "told 0 7 4 9 9");
+        // 4 times 9 by 7, 3 times 9 by 4: 36/7 is above 9/2
+        due("a greater one behind", x.tightest(), 5);
         x.cost(0, 0);
         x.cost(1, 0);
         due("all are 0: the first", x.tightest(), 2);
+        CornerCuts first = cyclic(5, 3);
+        first.column(3, 0, 0, 4);
+        cut(first, "gmi 1");
+        cut(first, "gmi 2");
+        due("the very first", first.tightest(), 0);
         due("no group", groupless().tightest(), -1);
     }
 
