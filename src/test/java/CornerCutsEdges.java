@@ -308,16 +308,16 @@ public final class CornerCutsEdges {
         due("element(1, 3)", x.element(1, 3, 0), 7);
         due("element(-1, -2)", x.element(-1, -2, 0), 7);
         due("element(2, 0)", x.element(2, 0, 0), 3);
-        x = cube(2, 0, 0, 1, 2, 0, 1, 1, 3);
-        due("the first column", x.element(2, 1, 1), 0);
-        due("the first column less than none", x.element(-2, -1, -1), 0);
+        x = cube(2, 0, 0, 1, 2, 0, 2, 1, 3);
+        due("the first column", x.element(2, 1, 2), 0);
+        due("the first column less than none", x.element(-2, -1, -2), 0);
         due("the second column", x.element(0, 2, 1), 0);
         due("the third column", x.element(0, 0, 3), 0);
-        due("all three", x.element(2, 3, 5), 0);
+        due("all three", x.element(2, 3, 6), 0);
         due("the last", x.element(1, 1, 2), 11);
-        due("the last by the first column", x.element(-1, 0, 1), 11);
+        due("the last by the first column", x.element(-1, 0, 0), 11);
         due("the last by the second column", x.element(1, -1, 1), 11);
-        due("the last twice: (2, 2, 4) less both others is (0, 1, 3)", x.plus(11, 11), 3);
+        due("the last twice: (2, 2, 4) less the first is (0, 1, 2)", x.plus(11, 11), 5);
 
         says(0, "above the diagonal 0, on it above 0, left of it in each row 0 or more, but below the one on the "
             + "diagonal.");
@@ -417,21 +417,21 @@ public final class CornerCutsEdges {
 
         says(0, "BASICS of a WALK: the m NUMBERS y so that BASIS times y is RIGHT SIDE less all COLUMNS that are taken "
             + "(whole ones, as it is a WALK).");
-        x = cube(2, 0, 0, 1, 2, 0, 1, 1, 3);
+        x = cube(2, 0, 0, 1, 2, 0, 2, 1, 3);
         x.right(0, 1);
         x.right(1, 9);
         x.right(2, -7);
         x.column(1, 0, 0, 1);
         x.column(0, 0, 2, 1);
-        x.column(0, 1, 1, 1);
-        // (1, 9, -7) is (1, 1, -11) and four times the second column: (1, 1, 1)
+        x.column(0, 1, 4, 1);
+        // but for multiples the right side is (1, 1, 1), column 2 is (0, 1, 1)
         due("COLUMNS 0 and 2", 100 * x.walk(2) + 10 * x.walk(3) + x.walk(4), 101);
-        // (0, 8, -8) is left
+        // (0, 8, -11) is left
         due("basic(0)", x.basic(0), 0);
         due("basic(1)", x.basic(1), 4);
-        due("basic(2)", x.basic(2), -4);
+        due("basic(2)", x.basic(2), -5);
         due("no POINT", x.walk(8), 0);
-        x.right(2, 5);
+        x.right(2, 8);
         due("basic(2)", x.basic(2), 0);
         due("a POINT", x.walk(8), 1);
 
@@ -456,6 +456,11 @@ public final class CornerCutsEdges {
         due("one dear step", x.whole(0), 99);
         x.column(-9, 0, 0, 99);
         due("most of column 1", 10 * x.whole(3) + x.whole(4), 10);
+        x = cyclic(6, 4);
+        x.column(2, 0, 0, 9);
+        x.column(10, 0, 0, 1);
+        due("the SHORTEST is no POINT", 10 * x.walk(2) + x.walk(3), 1);
+        due("a dearer one is", 10 * x.whole(2) + x.whole(3), 20);
     }
 
     private static void termsOfRefusals() {
@@ -608,6 +613,10 @@ public final class CornerCutsEdges {
         }
         due("PART of (0, 1) by 1 0", y.value(0, y.element(0, 1, 0)), 3);
         due("PART of (0, 1) by 0 1", y.value(1, y.element(0, 1, 0)), 0);
+        y = cube(2, 0, 0, 1, 2, 0, 2, 1, 3);
+        y.right(0, 1);
+        cut(y, "frac 1 -2 5");
+        due("three rows", values(y, 0), "0 8 4 2 10 6 9 5 1 11 7 3");
         y = cyclic(-5, 3);
         cut(y, "frac 1");
         due("by a basis below 0", values(y, 0), "0 4 3 2 1");
@@ -647,9 +656,12 @@ public final class CornerCutsEdges {
         cut(x, "told 5 1 9 9 9 9 9");
         due("hull 0", cut(x, "hull 0"), 1);
         due("values", values(x, 1), "0 1 2 3 4 5 6");
+        cut(x, "told 5 2 9 9 9 9 9");
+        due("hull 2", cut(x, "hull 2"), 3);
+        due("values, of this CUT alone", values(x, 3), "0 2 4 6 8 9 9");
         cut(x, "told 5 0 9 9 9 9 9");
-        refused(x, "hull of nothing", cut(x, "hull 2"), -4);
-        fault(x, "hull 3", 5);
+        refused(x, "hull of nothing", cut(x, "hull 4"), -4);
+        fault(x, "hull 5", 5);
         fault(x, "hull -1", 5);
 
         says(0, "\"told\" v0 v1 ..: VALUES 0 .. 999 of all ELEMENTS.");
@@ -769,6 +781,9 @@ public final class CornerCutsEdges {
         due("below SCALE by 3 and 3: LEAST", x.asks(0, 8), 2);
         due("below SCALE by 3 and 3: HOLDS", x.asks(0, 4), 0);
         due("just SCALE by 3 and 3: HOLDS", x.asks(2, 4), 1);
+        cut(x, "told 0 9 9 8");
+        due("LEAST of another CUT", x.asks(3, 8), 16);
+        due("HOLDS of another CUT", x.asks(3, 4), 1);
         x.right(0, 0);
         cut(x, "told 1 1 1 1");
         due("goal 0, nothing taken: LEAST", x.asks(0, 8), 0);
@@ -804,6 +819,15 @@ public final class CornerCutsEdges {
         // 1 and 5, 2 and 5, which make 0
         due("9 9 9 1 1 0 9: pairs", seven.asks(3, 7), 2);
         due("9 9 9 1 1 0 9: RANK", seven.asks(3, 5), 3);
+        CornerCuts six = cyclic(6, 1);
+        cut(six, "told 0 3 1 0 2 1");
+        // 2 and 2, 2 and 3, 3 and 3, 3 and 5, 5 and 5: x(3) is 0, x(5) is x(2), x(4) twice that; and x(1)
+        due("0 3 1 0 2 1: pairs", six.asks(0, 7), 5);
+        due("0 3 1 0 2 1: RANK", six.asks(0, 5), 4);
+        six.right(0, 2);
+        cut(six, "told 3 2 2 1 1 3");
+        due("3 2 2 1 1 3: pairs", six.asks(0, 7), 5);
+        due("3 2 2 1 1 3: RANK", six.asks(0, 5), 4);
         x.right(0, 0);
         cut(x, "told 1 5 5 5");
         due("goal 0: pairs", x.asks(0, 7), 0);
@@ -896,6 +920,16 @@ public final class CornerCutsEdges {
         due("by 1 0 1", tabled(x, 1), "0 1 0 1 1 0 1 0");
         due("by 0 1 1", tabled(x, 2), "0 1 1 0 0 1 1 0");
         due("by 1 1 1", tabled(x, 3), "0 1 1 0 1 0 0 1");
+        x = cube(2, 0, 0, 1, 2, 0, 2, 1, 3);
+        for (int i = 0; i < 3; i++) {
+            x.right(i, 1);
+        }
+        String[] six = {"0 0 0 0 0 0 1 1 1 1 1 1", "0 0 0 2 2 2 1 1 1 3 3 3", "0 1 2 1 2 0 0 1 2 1 2 0",
+            "0 4 2 4 2 0 3 1 5 1 5 3", "0 4 8 10 2 6 9 1 5 7 11 3", "0 28 20 10 14 30 21 25 5 7 35 15"};
+        due("six of 12", x.table(0), 6);
+        for (int i = 0; i < 6; i++) {
+            due("function " + i, tabled(x, i), six[i]);
+        }
         x = square(4, 0, 0, 6);
         x.right(0, 2);
         x.right(1, 3);
@@ -1487,6 +1521,9 @@ public final class CornerCutsEdges {
         due("below 0", square(9, -9, -9, -9).determinant(), -162);
         due("the greatest", cube(9, -9, 9, 9, 9, -9, -9, 9, 9).determinant(), 2916);
         due("the least", cube(-9, 9, -9, -9, -9, 9, 9, -9, -9).determinant(), -2916);
+        due("no two alike", cube(1, 2, 3, 0, 4, 5, 1, 0, 6).determinant(), 22);
+        due("no two alike", cube(2, -3, 7, 1, 8, -5, -6, 4, 9).determinant(), 485);
+        due("rows that depend", cube(1, 2, 3, 4, 5, 6, 7, 8, 9).determinant(), 0);
         due("one row", cyclic(-9, 0).determinant(), -9);
         due("one row", cyclic(0, 0).determinant(), 0);
 
@@ -1894,6 +1931,16 @@ public final class CornerCutsEdges {
         due("one element", new CornerCuts().table(0), 0);
         due("no group", groupless().table(0), -1);
         due("no group", groupless().table(1), -1);
+        x.basis(0, 0, 7);
+        due("another group: table(0)", x.table(0), 3);
+        due("another group: table(1)", x.table(1), 3);
+        x.basis(0, 0, 4);
+        due("a smaller one: table(0)", x.table(0), 2);
+        due("a smaller one: table(1)", x.table(1), 2);
+        x.undo();
+        x.undo();
+        due("undone: table(0)", x.table(0), 2);
+        due("undone: table(1)", x.table(1), 2);
 
         says(37, "Of the i-th FUNCTION of the TABLE the VALUE of an ELEMENT (element NONE: 1 if it is a FACET). NONE (no "
             + "GROUP, others).");
