@@ -1941,6 +1941,13 @@ public final class CornerCutsEdges {
         x.undo();
         due("undone: table(0)", x.table(0), 2);
         due("undone: table(1)", x.table(1), 2);
+        CornerCuts y = square(2, 0, 0, 2);
+        y.right(0, 1);
+        due("rests by 2 and 2", y.table(0), 2);
+        y.basis(0, 0, 3);
+        y.basis(1, 1, 3);
+        due("rests by 3 and 3", y.table(0), 3);
+        due("rests by 3 and 3: table(1)", y.table(1), 3);
 
         says(37, "Of the i-th FUNCTION of the TABLE the VALUE of an ELEMENT (element NONE: 1 if it is a FACET). NONE (no "
             + "GROUP, others).");
