@@ -716,6 +716,7 @@ public final class CornerCutsEdges {
         fault(x, "gmi 1 0 gmi", 8);
         fault(x, "gmi 10 x", 4);
         fault(x, "hull 0", 5);
+        wordsWithOneLetterWrong();
 
         says(0, "-4: there is no GROUP, or SCALE would be 0; by gmi, step, frac that is so, if PIVOT (its rest) "
             + "is 0.");
@@ -734,6 +735,25 @@ public final class CornerCutsEdges {
         refused(x, "goal 0", cut(x, "gmi 1 1"), -4);
         due("goal 0", cut(x, "told 1 0 0 0 0"), 0);
         refused(x, "goal 0, hull 0", cut(x, "hull 0"), -4);
+    }
+
+    /** Each WORD with each of its letters wrong, too few, too many, INTS behind that would do. */
+    private static void wordsWithOneLetterWrong() {
+        String[] texts = {"gmi 1", "frac 1", "step 1 1", "both 0 0", "hull 0", "told 0 1 2 3 4"};
+        for (String t : texts) {
+            CornerCuts x = cyclic(5, 3);
+            cut(x, "gmi 1");
+            due(t, cut(x, t), 1);
+            int letters = t.indexOf(' ');
+            for (int i = 0; i < letters; i++) {
+                String behind = t.substring(i + 1);
+                fault(x, t.substring(0, i) + 'q' + behind, 0);
+                fault(x, t.substring(0, i) + behind, 0);
+                fault(x, t.substring(0, i + 1) + t.charAt(i) + behind, 0);
+                fault(x, t.substring(0, i) + Character.toUpperCase(t.charAt(i)) + behind, 0);
+            }
+            fault(x, t.substring(letters), 1);
+        }
     }
 
     private static void termsOfPairs() {
